@@ -33,7 +33,6 @@ public final class QuorumStore {
     private static final int TAKE = 2;
     private static final int ADD = 3;
     private static final int SWAP = 4;
-    private static final int GET = 5;
     private static final int MEMBERS = 6;
 
     private static final int PREPARE = 1;
@@ -94,7 +93,7 @@ public final class QuorumStore {
         if (network.isFull()) {
             throw new IllegalStateException("300 messages are on their way");
         }
-        network.append(twin);
+        network.repeat(twin);
         return network.size;
     }
 
@@ -155,8 +154,7 @@ public final class QuorumStore {
         }
         int refusal = asked.refusal(client, seq);
         if (refusal == 0) {
-            asked.enqueue(new Value(kind, client, seq, nextKey, a, b));
-            asked.work();
+            asked.take(new Value(kind, client, seq, nextKey, a, b));
         }
         return refusal;
     }
@@ -227,11 +225,11 @@ public final class QuorumStore {
             case 8:
                 return seen.timer;
             case 9:
-                return seen.leads ? seen.queued : 0;
+                return seen.leads ? seen.lead.queued : 0;
             case 10:
-                return seen.leads ? seen.grants : 0;
+                return seen.leads ? seen.lead.grants : 0;
             case 11:
-                return seen.leads ? seen.proposals.size() : 0;
+                return seen.leads ? seen.lead.proposals.size() : 0;
             case 12:
                 return seen.accepted.size();
             case 13:
@@ -274,6 +272,10 @@ public final class QuorumStore {
         if (client < 0 || client >= CLIENTS) {
             throw new NoSuchElementException("no such client");
         }
+    }
+
+    private static boolean isIn(int mask, int node) {
+        return (mask >> node & 1) != 0;
     }
 
     /** More than half of the members are among the voters. */
@@ -335,13 +337,6 @@ public final class QuorumStore {
             return size >= MESSAGE_ROOM;
         }
 
-        void append(Message message) {
-            if (size < MESSAGE_ROOM) {
-                row[size] = message;
-                size++;
-            }
-        }
-
         void removeAt(int k) {
             if (k < 0 || k >= size) {
                 return;
@@ -355,16 +350,25 @@ public final class QuorumStore {
 
         void send(Message message) {
             sent++;
-            if (isFull()) {
-                lost++;
+            if (size < MESSAGE_ROOM) {
+                row[size] = message;
+                size++;
             } else {
-                append(message);
+                lost++;
+            }
+        }
+
+        /** A second time in the row, but not sent. */
+        void repeat(Message message) {
+            if (size < MESSAGE_ROOM) {
+                row[size] = message;
+                size++;
             }
         }
 
         /** What is lost is not even made: a tick may send thousands into a full network. */
         void sendPlain(int kind, int from, int to, int ballot, int slot, Value value) {
-            if (isFull()) {
+            if (size >= MESSAGE_ROOM) {
                 sent++;
                 lost++;
             } else {
@@ -557,8 +561,91 @@ public final class QuorumStore {
                     numbers[value.key] = value.b;
                     return 1;
                 default:
+                    // GET changes nothing.
                     return before;
             }
+        }
+    }
+
+    /** What a NODE has only while it LEADS. */
+    private static final class Lead {
+        final Value nothing = new Value(NOTHING, 0, 0, 0, 0, 0);
+        int grants;
+        final Row best = new Row(REACH);
+        /** The marks are ACKS. */
+        final Row proposals = new Row(WINDOW);
+        final Value[] queue = new Value[QUEUE_ROOM];
+        int queued;
+        /** A and PEERS when the NODE last cared for A becoming greater. */
+        int settledAt;
+        int settledPeers;
+
+        void clear() {
+            grants = 0;
+            best.forgetUpTo(Integer.MAX_VALUE);
+            proposals.forgetUpTo(Integer.MAX_VALUE);
+            for (int i = 0; i < QUEUE_ROOM; i++) {
+                queue[i] = null;
+            }
+            queued = 0;
+        }
+
+        /** Of the ACCEPTED of some NODE those of the greatest BALLOT become BEST. */
+        void lookAt(Row list, int applied) {
+            for (int slot = applied + 1; slot <= applied + REACH; slot++) {
+                if (list.markAt(slot) > best.markAt(slot)) {
+                    best.put(slot, list.markAt(slot), list.valueAt(slot));
+                }
+            }
+        }
+
+        /** What to propose; null: WORK is over. */
+        Value valueFor(int slot) {
+            Value value = best.valueAt(slot);
+            if (value != null) {
+                return value;
+            }
+            if (best.lastSlot() > slot || proposals.lastSlot() > slot) {
+                return nothing;
+            }
+            return dequeue();
+        }
+
+        boolean isQueueFull() {
+            return queued >= QUEUE_ROOM;
+        }
+
+        void enqueue(Value value) {
+            if (queued < QUEUE_ROOM) {
+                queue[queued] = value;
+                queued++;
+            }
+        }
+
+        private Value dequeue() {
+            if (queued == 0) {
+                return null;
+            }
+            Value first = queue[0];
+            queued--;
+            for (int i = 0; i < queued; i++) {
+                queue[i] = queue[i + 1];
+            }
+            queue[queued] = null;
+            return first;
+        }
+
+        boolean isPending(int client, int seq) {
+            return isAmong(queue, client, seq) || isAmong(proposals.values, client, seq);
+        }
+
+        private static boolean isAmong(Value[] values, int client, int seq) {
+            for (Value value : values) {
+                if (value != null && value.client == client && value.seq == seq) {
+                    return true;
+                }
+            }
+            return false;
         }
     }
 
@@ -566,7 +653,6 @@ public final class QuorumStore {
     private static final class Node {
         final int number;
         final Network network;
-        final Value nothing = new Value(NOTHING, 0, 0, 0, 0, 0);
 
         int promised;
         /** A. */
@@ -583,16 +669,7 @@ public final class QuorumStore {
         int leader;
         /** The greatest BALLOT that a REJECT told. */
         int told;
-
-        int grants;
-        final Row best = new Row(REACH);
-        /** The marks are ACKS. */
-        final Row proposals = new Row(WINDOW);
-        final Value[] queue = new Value[QUEUE_ROOM];
-        int queued;
-        /** A and PEERS when it last cared, as it LEADS, for A becoming greater. */
-        int settledAt;
-        int settledPeers;
+        final Lead lead = new Lead();
 
         Node(int number, int members, Network network) {
             this.number = number;
@@ -615,7 +692,7 @@ public final class QuorumStore {
             timer = 0;
             leader = -1;
             told = 0;
-            clearLeading();
+            lead.clear();
         }
 
         private void rest() {
@@ -627,23 +704,13 @@ public final class QuorumStore {
             rest();
         }
 
-        private void clearLeading() {
-            grants = 0;
-            best.forgetUpTo(Integer.MAX_VALUE);
-            proposals.forgetUpTo(Integer.MAX_VALUE);
-            for (int i = 0; i < QUEUE_ROOM; i++) {
-                queue[i] = null;
-            }
-            queued = 0;
-        }
-
         private int peers() {
             return state.membersBehind(applied) & ~(1 << number);
         }
 
         private void sendEach(int mask, int kind, int ballotTold, int slot, Value value) {
             for (int to = 0; to < NODES; to++) {
-                if ((mask >> to & 1) != 0) {
+                if (isIn(mask, to)) {
                     network.sendPlain(kind, number, to, ballotTold, slot, value);
                 }
             }
@@ -668,8 +735,8 @@ public final class QuorumStore {
                 return;
             }
             rest();
-            if ((state.configAt(applied + 1) >> number & 1) != 0) {
-                lead();
+            if (isIn(state.configAt(applied + 1), number)) {
+                beginToLead();
                 work();
             }
         }
@@ -677,40 +744,35 @@ public final class QuorumStore {
         private void beat() {
             int peers = peers();
             for (int to = 0; to < NODES; to++) {
-                sendEach(peers & 1 << to, HEART, ballot, applied, null);
-                sendEach(peers & 1 << to & ~grants, PREPARE, ballot, 0, null);
+                if (isIn(peers, to)) {
+                    network.sendPlain(HEART, number, to, ballot, applied, null);
+                }
+                if (isIn(peers & ~lead.grants, to)) {
+                    network.sendPlain(PREPARE, number, to, ballot, 0, null);
+                }
             }
             for (int slot = applied + 1; slot <= applied + WINDOW; slot++) {
-                Value value = proposals.valueAt(slot);
+                Value value = lead.proposals.valueAt(slot);
                 if (value != null) {
-                    int missing = state.configAt(slot) & ~proposals.markAt(slot) & ~(1 << number);
+                    int missing = state.configAt(slot) & ~lead.proposals.markAt(slot) & ~(1 << number);
                     sendEach(missing, ACCEPT, ballot, slot, value);
                 }
             }
         }
 
-        private void lead() {
+        private void beginToLead() {
             int greatest = Math.max(promised, Math.max(ballot, told));
             ballot = 8 * (greatest / 8 + 1) + number;
-            clearLeading();
+            lead.clear();
             leads = true;
             leader = number;
             timer = LEADER_TIMER;
             promised = ballot;
-            grants = 1 << number;
-            lookAt(accepted);
-            settledAt = applied;
-            settledPeers = peers();
-            sendEach(settledPeers, PREPARE, ballot, 0, null);
-        }
-
-        /** Of the ACCEPTED of some NODE those of the greatest BALLOT become BEST. */
-        private void lookAt(Row list) {
-            for (int slot = applied + 1; slot <= applied + REACH; slot++) {
-                if (list.markAt(slot) > best.markAt(slot)) {
-                    best.put(slot, list.markAt(slot), list.valueAt(slot));
-                }
-            }
+            lead.grants = 1 << number;
+            lead.lookAt(accepted, applied);
+            lead.settledAt = applied;
+            lead.settledPeers = peers();
+            sendEach(lead.settledPeers, PREPARE, ballot, 0, null);
         }
 
         /** WORK, as one loop: APPLYING what it has chosen itself asks for WORK again, which is the next turn. */
@@ -718,10 +780,10 @@ public final class QuorumStore {
             for (int turn = 0; turn < MOST_WORK; turn++) {
                 settle();
                 int slot = openSlot();
-                if (slot == 0 || !isMajority(state.configAt(slot), grants)) {
+                if (slot == 0 || !isMajority(state.configAt(slot), lead.grants)) {
                     return;
                 }
-                Value value = valueFor(slot);
+                Value value = lead.valueFor(slot);
                 if (value == null) {
                     return;
                 }
@@ -733,56 +795,44 @@ public final class QuorumStore {
 
         /** What is due when A of a NODE that LEADS became greater. */
         private void settle() {
-            if (settledAt == applied) {
+            if (lead.settledAt == applied) {
                 return;
             }
-            proposals.forgetUpTo(applied);
-            best.forgetUpTo(applied);
+            lead.proposals.forgetUpTo(applied);
+            lead.best.forgetUpTo(applied);
             int peers = peers();
-            sendEach(peers & ~grants & ~settledPeers, PREPARE, ballot, 0, null);
-            settledAt = applied;
-            settledPeers = peers;
+            sendEach(peers & ~lead.grants & ~lead.settledPeers, PREPARE, ballot, 0, null);
+            lead.settledAt = applied;
+            lead.settledPeers = peers;
         }
 
         /** The first SLOT of the window that has no PROPOSAL and is not KNOWN; 0: none. */
         private int openSlot() {
             for (int slot = applied + 1; slot <= applied + WINDOW; slot++) {
-                if (proposals.valueAt(slot) == null && known.valueAt(slot) == null) {
+                if (lead.proposals.valueAt(slot) == null && known.valueAt(slot) == null) {
                     return slot;
                 }
             }
             return 0;
         }
 
-        /** What to propose; null: WORK is over. */
-        private Value valueFor(int slot) {
-            Value value = best.valueAt(slot);
-            if (value != null) {
-                return value;
-            }
-            if (best.lastSlot() > slot || proposals.lastSlot() > slot) {
-                return nothing;
-            }
-            return dequeue();
-        }
-
         private void propose(int slot, Value value) {
             int config = state.configAt(slot);
             int self = 1 << number;
-            if ((config & self) != 0) {
+            if (isIn(config, number)) {
                 promised = Math.max(promised, ballot);
                 accepted.put(slot, ballot, value);
             }
-            proposals.put(slot, config & self, value);
+            lead.proposals.put(slot, config & self, value);
             sendEach(config & ~self, ACCEPT, ballot, slot, value);
         }
 
         private void chooseIfAcknowledged(int slot) {
-            Value value = proposals.valueAt(slot);
-            if (value != null && isMajority(state.configAt(slot), proposals.markAt(slot))) {
+            Value value = lead.proposals.valueAt(slot);
+            if (value != null && isMajority(state.configAt(slot), lead.proposals.markAt(slot))) {
                 sendEach(peers(), CHOSEN, 0, slot, value);
                 learn(slot, value);
-                proposals.remove(slot);
+                lead.proposals.remove(slot);
             }
         }
 
@@ -807,53 +857,23 @@ public final class QuorumStore {
             accepted.forgetUpTo(applied);
         }
 
-        /** What ask answers, but for the room that it leaves to enqueue. */
+        /** What ask answers: 0, if the request can be taken. */
         int refusal(int client, int seq) {
-            if (!leads || !isMajority(state.configAt(applied + 1), grants)) {
+            if (!leads || !isMajority(state.configAt(applied + 1), lead.grants)) {
                 return -1;
             }
             if (state.seqs[client] >= seq) {
                 return -2;
             }
-            if (isPending(client, seq)) {
+            if (lead.isPending(client, seq)) {
                 return -3;
             }
-            return queued >= QUEUE_ROOM ? -4 : 0;
+            return lead.isQueueFull() ? -4 : 0;
         }
 
-        private boolean isPending(int client, int seq) {
-            for (int i = 0; i < queued; i++) {
-                if (queue[i].client == client && queue[i].seq == seq) {
-                    return true;
-                }
-            }
-            for (int slot = applied + 1; slot <= applied + WINDOW; slot++) {
-                Value value = proposals.valueAt(slot);
-                if (value != null && value.client == client && value.seq == seq) {
-                    return true;
-                }
-            }
-            return false;
-        }
-
-        void enqueue(Value value) {
-            if (queued < QUEUE_ROOM) {
-                queue[queued] = value;
-                queued++;
-            }
-        }
-
-        private Value dequeue() {
-            if (queued == 0) {
-                return null;
-            }
-            Value first = queue[0];
-            queued--;
-            for (int i = 0; i < queued; i++) {
-                queue[i] = queue[i + 1];
-            }
-            queue[queued] = null;
-            return first;
+        void take(Value value) {
+            lead.enqueue(value);
+            work();
         }
 
         void receive(Message message) {
@@ -888,7 +908,7 @@ public final class QuorumStore {
                     break;
             }
             applyKnown();
-            if (leads && (granted || settledAt != applied)) {
+            if (leads && (granted || lead.settledAt != applied)) {
                 work();
             }
         }
@@ -933,8 +953,8 @@ public final class QuorumStore {
                 want(message.from);
                 return false;
             }
-            grants |= 1 << message.from;
-            lookAt(message.list);
+            lead.grants |= 1 << message.from;
+            lead.lookAt(message.list, applied);
             return true;
         }
 
@@ -963,11 +983,12 @@ public final class QuorumStore {
         }
 
         private void onAccepted(Message message) {
-            Value value = proposals.valueAt(message.slot);
+            Value value = lead.proposals.valueAt(message.slot);
             if (!leads || ballot != message.ballot || value == null) {
                 return;
             }
-            proposals.put(message.slot, proposals.markAt(message.slot) | 1 << message.from, value);
+            int acks = lead.proposals.markAt(message.slot) | 1 << message.from;
+            lead.proposals.put(message.slot, acks, value);
             chooseIfAcknowledged(message.slot);
         }
 

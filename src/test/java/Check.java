@@ -1,0 +1,57 @@
+import java.util.NoSuchElementException;
+
+/** Counts and prints every call whose answer is not the one that is due. */
+final class Check {
+    /** A call of the face; a call that answers nothing answers 0 here. */
+    interface Call {
+        long go();
+    }
+
+    static final String NO_ELEMENT = "throws.NoSuchElementException";
+    static final String ARGUMENT = "throws.IllegalArgumentException";
+    static final String STATE = "throws.IllegalStateException";
+
+    private static int wrong = 0;
+
+    private Check() { }
+
+    static String outcome(Call call) {
+        try {
+            return Long.toString(call.go());
+        } catch (NoSuchElementException e) {
+            return NO_ELEMENT;
+        } catch (IllegalArgumentException e) {
+            return ARGUMENT;
+        } catch (IllegalStateException e) {
+            return STATE;
+        } catch (RuntimeException e) {
+            return "throws." + e.getClass().getSimpleName();
+        }
+    }
+
+    static void same(String what, String got, String want) {
+        if (!got.equals(want)) {
+            wrong++;
+            System.out.println(what + " answered " + got + ", due is " + want);
+        }
+    }
+
+    static void due(String what, long got, long want) {
+        same(what, Long.toString(got), Long.toString(want));
+    }
+
+    static void isThrown(String what, Call call, String want) {
+        same(what, outcome(call), want);
+    }
+
+    static int wrongSoFar() {
+        return wrong;
+    }
+
+    static void finish() {
+        if (wrong != 0) {
+            System.out.println(wrong + " answers are not as due");
+            System.exit(1);
+        }
+    }
+}

@@ -1,0 +1,112 @@
+/** A QuorumStore with what many tests do to it. */
+final class Run {
+    static final int PREPARE = 1;
+    static final int PROMISE = 2;
+    static final int REJECT = 3;
+    static final int ACCEPT = 4;
+    static final int ACCEPTED = 5;
+    static final int HEART = 6;
+    static final int WANT = 7;
+    static final int CHOSEN = 8;
+    static final int SNAPSHOT = 9;
+    static final int PUT = 1;
+    static final int TAKE = 2;
+    static final int ADD = 3;
+    static final int SWAP = 4;
+    static final int GET = 5;
+    static final int MEMBERS = 6;
+    static final long NONE = 1099511627776L;
+
+    final QuorumStore x;
+
+    Run(int members) {
+        x = new QuorumStore(members);
+    }
+
+    /** NODE 0 LEADS with BALLOT 8, all members granted it, and nothing is on its way. */
+    static Run ledBy0(int members) {
+        Run run = new Run(members);
+        run.x.tick(8);
+        run.settle();
+        return run;
+    }
+
+    /** Delivers from the front until nothing is on its way. */
+    void settle() {
+        for (int i = 0; i < 10000 && x.count(0) > 0; i++) {
+            x.deliver(0);
+        }
+    }
+
+    void dropAll() {
+        for (int i = 0; i < 300 && x.count(0) > 0; i++) {
+            x.drop(0);
+        }
+    }
+
+    /** Where the first MESSAGE of that kind to that NODE is; -1: there is none. */
+    int find(int kind, int to) {
+        for (int k = 0; k < x.count(0); k++) {
+            if (x.message(k, 0) == kind && x.message(k, 2) == to) {
+                return k;
+            }
+        }
+        return -1;
+    }
+
+    /** Delivers the first MESSAGE of that kind to that NODE. */
+    void hand(int kind, int to) {
+        int k = find(kind, to);
+        if (k < 0) {
+            Check.same("a message of kind " + kind + " to " + to, "none", "one");
+        } else {
+            x.deliver(k);
+        }
+    }
+
+    /** The MESSAGES on their way, each as kind:from>to(BALLOT,SLOT). */
+    String wire() {
+        StringBuilder text = new StringBuilder();
+        for (int k = 0; k < x.count(0); k++) {
+            text.append(k == 0 ? "" : " ").append(x.message(k, 0)).append(':').append(x.message(k, 1)).append('>')
+                .append(x.message(k, 2)).append('(').append(x.message(k, 3)).append(',').append(x.message(k, 4))
+                .append(')');
+        }
+        return text.toString();
+    }
+
+    void wireIs(String what, String want) {
+        Check.same(what, wire(), want);
+    }
+
+    void aboutIs(String what, int node, int about, int want) {
+        Check.due(what + ": about(" + node + ", " + about + ")", x.about(node, about), want);
+    }
+
+    /** All that the face can tell without changing anything, but for MESSAGES' contents. */
+    String sight() {
+        StringBuilder text = new StringBuilder(wire());
+        for (int what = 0; what < 4; what++) {
+            text.append(' ').append(x.count(what));
+        }
+        for (int node = 0; node < 7; node++) {
+            for (int what = 0; what < 14; what++) {
+                text.append(' ').append(x.about(node, what));
+            }
+            for (int key = 0; key < 32; key++) {
+                text.append(' ').append(x.number(node, key));
+            }
+            for (int client = 0; client < 8; client++) {
+                text.append(' ').append(x.answer(node, client, 0)).append(' ').append(x.answer(node, client, 1));
+            }
+        }
+        return text.toString();
+    }
+
+    /** The call throws that, and nothing that can be seen has changed. */
+    void refuses(String what, Check.Call call, String want) {
+        String before = sight();
+        Check.isThrown(what, call, want);
+        Check.same(what + " changed nothing", sight().equals(before) ? "yes" : "no", "yes");
+    }
+}
