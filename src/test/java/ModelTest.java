@@ -1,6 +1,6 @@
 /** Holds QuorumStore against Model in many runs of 512 calls: every answer, and now and then all that can be seen. */
 public final class ModelTest {
-    private static final int RUNS = 400;
+    private static final int RUNS = 800;
     private static final int CALLS = 512;
     private static final int[] MASKS = {7, 7, 1, 2, 3, 15, 31, 127, 127, 96, 0, 4, 64, -1};
 
@@ -17,9 +17,12 @@ public final class ModelTest {
     private final int mostTicks;
     /** With more MESSAGES on their way it does not tick. */
     private final int patience;
-    /** The NODE that hears nothing in this part of the run; 7: all do. */
+    /** The NODE that does not hear some kind of MESSAGE in this part of the run; 7: all do. */
     private int deaf = 7;
+    /** 0: it hears nothing at all. */
+    private int unheardKind;
     private int nextSeq = 1;
+    private final int[][] askedBefore = {{0, 1, 3, 1, 0}, {1, 2, 3, 1, 0}, {2, 3, 3, 1, 0}, {3, 4, 3, 1, 0}};
 
     private ModelTest(int run) {
         this.run = run;
@@ -46,10 +49,11 @@ public final class ModelTest {
     private void play() {
         for (int call = 1; call <= CALLS && Check.wrongSoFar() == 0; call++) {
             if (call % 64 == 0) {
-                deaf = chance.below(3) == 0 ? 7 : chance.below(7);
+                deaf = chance.below(3) == 0 ? 7 : chance.of(0, 0, 1, 1, 2, 3, 4, 5, 6);
+                unheardKind = chance.of(0, 0, Run.PREPARE, Run.ACCEPT, Run.ACCEPTED, Run.HEART, Run.CHOSEN);
             }
             step("run " + run + " call " + call + ": ");
-            if (call % 32 == 0) {
+            if (call % 64 == 32) {
                 compareAll("run " + run + " after call " + call + ": ");
             }
         }
@@ -94,7 +98,8 @@ public final class ModelTest {
         int size = model.row.size();
         boolean wild = chance.below(100) < wildness;
         int k = wild && size > 0 ? chance.below(size) : 0;
-        boolean unheard = k < size && model.row.get(k).to() == deaf;
+        boolean unheard = k < size && model.row.get(k).to() == deaf
+            && (unheardKind == 0 || model.row.get(k).kind() == unheardKind);
         int dice = unheard ? 0 : wild ? chance.below(10) : 9;
         if (dice == 0) {
             compare(at + "drop(" + k + ")", () -> store.drop(k), () -> model.drop(k));
@@ -106,6 +111,10 @@ public final class ModelTest {
     }
 
     private void ask(String at) {
+        if (chance.below(6) == 0) {
+            askAgain(at);
+            return;
+        }
         if (chance.below(3) == 0) {
             int key = chance.below(4) * 10;
             compare(at + "key(" + key + ")", () -> store.key(key), () -> model.key(key));
@@ -117,8 +126,17 @@ public final class ModelTest {
         int kind = members ? 6 : 1 + chance.below(5);
         int a = members ? chance.below(128) : chance.of(1, 2, chance.below(5), Integer.MAX_VALUE, -1);
         int b = chance.below(5);
+        askedBefore[chance.below(askedBefore.length)] = new int[] {client, seq, kind, a, b};
         compare(at + "ask(" + node + ", " + client + ", " + seq + ", " + kind + ", " + a + ", " + b + ")",
             () -> store.ask(node, client, seq, kind, a, b), () -> model.ask(node, client, seq, kind, a, b));
+    }
+
+    /** As a client does that got no answer. */
+    private void askAgain(String at) {
+        int node = leaderOrAny();
+        int[] v = askedBefore[chance.below(askedBefore.length)];
+        compare(at + "ask of " + node + " for client " + v[0] + ", seq " + v[1] + " again",
+            () -> store.ask(node, v[0], v[1], v[2], v[3], v[4]), () -> model.ask(node, v[0], v[1], v[2], v[3], v[4]));
     }
 
     private int leaderOrAny() {

@@ -38,6 +38,18 @@ final class Run {
         }
     }
 
+    /** Delivers from the front until only MESSAGES of that kind are on their way. */
+    void settleBut(int kind) {
+        int k = 0;
+        for (int i = 0; i < 10000 && k < x.count(0); i++) {
+            if (x.message(k, 0) == kind) {
+                k++;
+            } else {
+                x.deliver(k);
+            }
+        }
+    }
+
     void dropAll() {
         for (int i = 0; i < 300 && x.count(0) > 0; i++) {
             x.drop(0);

@@ -26,6 +26,14 @@ public final class TermsTest {
         snapshotAndWhatIsKnownAbove();
         promiseOfOneThatIsAhead();
         acceptedIsForgotten();
+        oneRequestInTwoSlots();
+        proposalChosenByAnother();
+        oneOfPeersComesBack();
+        acceptWithoutPrepare();
+        whatIsOnItsWayStaysAsItWas();
+        messagesOfAnEarlierBallot();
+        acceptedAfterSteppingDown();
+        lesserRejectTellsNothing();
         Check.finish();
     }
 
@@ -163,11 +171,16 @@ public final class TermsTest {
         run.aboutIs("its PROPOSAL is gone", 0, 11, 1);
         run.aboutIs("SLOT 1 is not chosen", 0, 4, 0);
         Check.due("SLOT 2 is KNOWN", run.x.known(0, 2, 4), 2);
+        run.x.ask(0, 1, 1, Run.GET, 0, 0);
+        run.aboutIs("the next is proposed", 0, 11, 2);
+        Check.due("in SLOT 3", run.x.message(5, 4), 3);
+        run.x.drop(6);
+        run.x.drop(5);
         run.x.deliver(0);
         run.x.deliver(4);
         run.aboutIs("both are applied", 0, 4, 2);
-        run.aboutIs("no PROPOSALS", 0, 11, 0);
-        run.aboutIs("no ACCEPTED", 0, 12, 0);
+        run.aboutIs("SLOT 3 is left", 0, 11, 1);
+        run.aboutIs("SLOT 3 is left", 0, 12, 1);
         run.hand(Run.ACCEPT, 2);
         String wire = run.wire();
         run.hand(Run.ACCEPTED, 0);
@@ -498,6 +511,10 @@ public final class TermsTest {
         int snapshot = run.find(Run.SNAPSHOT, 2);
         Check.due("SNAPSHOT of 17", run.x.message(snapshot, 4), 17);
         run.x.copy(snapshot);
+        run.x.ask(0, 0, 18, Run.ADD, 1, 0);
+        run.hand(Run.ACCEPT, 1);
+        run.hand(Run.ACCEPTED, 0);
+        run.aboutIs("0 is further by now", 0, 4, 18);
         run.hand(Run.SNAPSHOT, 2);
         run.aboutIs("A", 2, 4, 17);
         run.aboutIs("BASE", 2, 5, 17);
@@ -505,14 +522,20 @@ public final class TermsTest {
         Check.due("the client's seq", run.x.answer(2, 0, 0), 17);
         Check.due("its RESULT", run.x.answer(2, 0, 1), 17);
         Check.isThrown("SLOT 17 is not KNOWN", () -> run.x.known(2, 17, 0), Check.NO_ELEMENT);
-        run.x.ask(0, 0, 18, Run.ADD, 1, 0);
-        run.hand(Run.ACCEPT, 1);
-        run.hand(Run.ACCEPTED, 0);
-        run.hand(Run.CHOSEN, 2);
-        run.aboutIs("SLOT 18 is applied", 2, 4, 18);
+        for (int seq = 18; seq <= 20; seq++) {
+            run.x.ask(0, 0, seq, Run.ADD, 1, 0);
+            run.settleBut(Run.SNAPSHOT);
+        }
+        run.aboutIs("2 follows", 2, 4, 20);
+        for (int seq = 21; seq <= 36; seq++) {
+            run.x.ask(0, 0, seq, Run.ADD, 1, 0);
+            run.settleBut(Run.SNAPSHOT);
+        }
+        run.aboutIs("BASE is A - 16 where that is greater", 2, 5, 20);
         run.hand(Run.SNAPSHOT, 2);
-        run.aboutIs("a SNAPSHOT that is not above A changes nothing", 2, 4, 18);
-        Check.due("the number", run.x.number(2, 0), 18);
+        run.aboutIs("a SNAPSHOT that is not above A changes nothing", 2, 4, 36);
+        run.aboutIs("a SNAPSHOT that is not above A changes nothing", 2, 5, 20);
+        Check.due("the number", run.x.number(2, 0), 36);
     }
 
     private static void chooseOneMore(Run run, int seq) {
@@ -583,5 +606,163 @@ public final class TermsTest {
         Check.due("but it is said", run.x.message(run.x.count(0) - 1, 0), Run.ACCEPTED);
         run.hand(Run.CHOSEN, 2);
         run.aboutIs("A", 2, 4, 1);
+    }
+
+    private static void oneRequestInTwoSlots() {
+        Run run = Run.ledBy0(31);
+        run.x.ask(0, 1, 1, Run.PUT, 100, 0);
+        run.x.ask(0, 0, 1, Run.ADD, 1, 0);
+        Check.due("SLOT 2 to 1", run.x.message(4, 2) * 10 + run.x.message(4, 4), 12);
+        run.x.deliver(4);
+        run.dropAll();
+        run.x.fall(0);
+        run.x.tick(6);
+        run.hand(Run.PREPARE, 3);
+        run.hand(Run.PREPARE, 4);
+        run.hand(Run.PROMISE, 2);
+        run.hand(Run.PROMISE, 2);
+        Check.due("2 is asked for the same", run.x.ask(2, 0, 1, Run.ADD, 1, 0), 0);
+        run.settle();
+        run.aboutIs("it is in SLOTS 1 and 2", 2, 4, 2);
+        Check.due("SLOT 1", run.x.known(2, 1, 2), 1);
+        Check.due("SLOT 2", run.x.known(2, 2, 2), 1);
+        Check.due("SLOT 2", run.x.known(2, 2, 0), Run.ADD);
+        Check.due("it counts once", run.x.number(2, 0), 1);
+        Check.due("it counts once", run.x.answer(3, 0, 1), 1);
+    }
+
+    /** 0 LEADS with 8 and a PROPOSAL; 2 with 18, and 0 has not heard of that. */
+    private static Run twoLeaders() {
+        Run run = Run.ledBy0(7);
+        run.x.ask(0, 0, 1, Run.PUT, 5, 0);
+        run.hand(Run.ACCEPT, 1);
+        run.x.drop(run.find(Run.ACCEPT, 2));
+        run.x.tick(6);
+        run.aboutIs("0 LEADS", 0, 1, 1);
+        run.aboutIs("2 LEADS", 2, 2, 18);
+        for (int k = run.x.count(0) - 1; k >= 0; k--) {
+            if (run.x.message(k, 3) != 18 && run.x.message(k, 0) != Run.ACCEPTED) {
+                run.x.drop(k);
+            }
+        }
+        run.wireIs("ACCEPTED of 1, PREPARES of 2", "5:1>0(8,1) 1:2>0(18,0) 1:2>1(18,0)");
+        run.hand(Run.PREPARE, 1);
+        run.hand(Run.PROMISE, 2);
+        return run;
+    }
+
+    private static void proposalChosenByAnother() {
+        Run run = twoLeaders();
+        run.hand(Run.ACCEPT, 1);
+        run.hand(Run.ACCEPTED, 2);
+        run.hand(Run.CHOSEN, 0);
+        run.aboutIs("0 LEADS", 0, 1, 1);
+        run.aboutIs("what it proposed is applied", 0, 4, 1);
+        run.aboutIs("no PROPOSAL is left", 0, 11, 0);
+        run.aboutIs("nothing is ACCEPTED", 0, 12, 0);
+        int sent = run.x.count(1);
+        run.hand(Run.ACCEPTED, 0);
+        Check.due("ACCEPTED for no PROPOSAL", run.x.count(1), sent);
+    }
+
+    private static void oneOfPeersComesBack() {
+        Run run = Run.ledBy0(3);
+        run.x.ask(0, 0, 1, Run.MEMBERS, 1, 0);
+        run.settle();
+        for (int seq = 2; seq <= 4; seq++) {
+            run.x.ask(0, 0, seq, Run.ADD, 1, 0);
+            run.settle();
+        }
+        run.x.ask(0, 0, 5, Run.ADD, 1, 0);
+        run.wireIs("0 is alone", "");
+        run.x.ask(0, 0, 6, Run.MEMBERS, 7, 0);
+        run.wireIs("1 is in GRANTS", "1:0>2(8,0)");
+    }
+
+    private static void acceptWithoutPrepare() {
+        Run run = twoLeaders();
+        run.x.drop(run.find(Run.PREPARE, 0));
+        run.hand(Run.ACCEPT, 0);
+        run.aboutIs("0 steps down", 0, 1, 0);
+        run.aboutIs("it PROMISED", 0, 3, 18);
+        run.aboutIs("LEADER", 0, 7, 2);
+        run.aboutIs("TIMER", 0, 8, 8);
+        run.aboutIs("its BALLOT stays", 0, 2, 8);
+        Check.due("ACCEPTED", run.x.message(run.x.count(0) - 1, 0), Run.ACCEPTED);
+    }
+
+    private static void whatIsOnItsWayStaysAsItWas() {
+        Run run = new Run(7);
+        run.x.tick(8);
+        run.x.copy(0);
+        run.hand(Run.PREPARE, 2);
+        run.hand(Run.PROMISE, 0);
+        run.hand(Run.PREPARE, 1);
+        run.x.ask(0, 0, 1, Run.PUT, 5, 0);
+        run.hand(Run.ACCEPT, 1);
+        run.hand(Run.PREPARE, 1);
+        int first = run.find(Run.PROMISE, 0);
+        Check.due("the first PROMISE has no ACCEPTED", run.x.message(first, 5), 0);
+        Check.due("the second one has", run.x.message(run.x.count(0) - 1, 5), 1);
+    }
+
+    private static void messagesOfAnEarlierBallot() {
+        Run run = Run.ledBy0(7);
+        run.x.ask(0, 0, 1, Run.PUT, 5, 0);
+        run.x.copy(0);
+        run.hand(Run.ACCEPT, 1);
+        run.x.tick(3);
+        run.x.fall(0);
+        run.x.rise(0);
+        run.x.fall(1);
+        run.x.rise(1);
+        run.hand(Run.HEART, 2);
+        run.x.tick(8);
+        run.aboutIs("0 LEADS again", 0, 2, 16);
+        run.x.deliver(run.find(Run.ACCEPTED, 0));
+        run.aboutIs("an old ACCEPTED", 0, 4, 0);
+        int prepare = run.x.count(0) - 2;
+        Check.due("PREPARE of 16", run.x.message(prepare, 3), 16);
+        run.x.deliver(prepare);
+        run.x.deliver(run.find(Run.ACCEPT, 1));
+        int reject = run.x.count(0) - 1;
+        Check.due("REJECT", run.x.message(reject, 0), Run.REJECT);
+        Check.due("of 16", run.x.message(reject, 3), 16);
+        run.x.deliver(reject);
+        run.aboutIs("its own BALLOT is not below it", 0, 1, 1);
+        run.hand(Run.PROMISE, 0);
+        run.aboutIs("GRANTS", 0, 10, 3);
+        run.aboutIs("SLOT 1 is proposed again", 0, 11, 1);
+
+        Run old = new Run(7);
+        old.x.tick(8);
+        old.hand(Run.PREPARE, 1);
+        old.x.fall(0);
+        old.x.rise(0);
+        old.x.tick(8);
+        old.hand(Run.PROMISE, 0);
+        old.aboutIs("a PROMISE of 8 is no GRANT for 16", 0, 10, 1);
+    }
+
+    private static void acceptedAfterSteppingDown() {
+        Run run = twoLeaders();
+        run.hand(Run.PREPARE, 0);
+        run.aboutIs("0 steps down", 0, 1, 0);
+        int sent = run.x.count(1);
+        run.hand(Run.ACCEPTED, 0);
+        Check.due("nothing is chosen", run.x.count(1), sent);
+        run.aboutIs("nothing is chosen", 0, 4, 0);
+    }
+
+    private static void lesserRejectTellsNothing() {
+        Run run = threeRivals();
+        run.hand(Run.HEART, 1);
+        run.hand(Run.HEART, 2);
+        run.x.deliver(run.x.count(0) - 1);
+        run.x.deliver(run.x.count(0) - 1);
+        run.aboutIs("0 steps down", 0, 1, 0);
+        run.dropAll();
+        run.x.tick(8);
+        run.aboutIs("a round above 18, though 9 was told last", 0, 2, 24);
     }
 }
