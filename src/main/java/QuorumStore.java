@@ -426,6 +426,12 @@ public final class QuorumStore {
             }
         }
 
+        void forgetAll() {
+            for (int place = 0; place < slots.length; place++) {
+                clearPlace(place);
+            }
+        }
+
         private void clearPlace(int place) {
             slots[place] = 0;
             marks[place] = 0;
@@ -582,8 +588,8 @@ public final class QuorumStore {
 
         void clear() {
             grants = 0;
-            best.forgetUpTo(Integer.MAX_VALUE);
-            proposals.forgetUpTo(Integer.MAX_VALUE);
+            best.forgetAll();
+            proposals.forgetAll();
             for (int i = 0; i < QUEUE_ROOM; i++) {
                 queue[i] = null;
             }

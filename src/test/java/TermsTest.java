@@ -719,8 +719,6 @@ public final class TermsTest {
         run.hand(Run.HEART, 2);
         run.x.tick(8);
         run.aboutIs("0 LEADS again", 0, 2, 16);
-        run.x.deliver(run.find(Run.ACCEPTED, 0));
-        run.aboutIs("an old ACCEPTED", 0, 4, 0);
         int prepare = run.x.count(0) - 2;
         Check.due("PREPARE of 16", run.x.message(prepare, 3), 16);
         run.x.deliver(prepare);
@@ -733,6 +731,10 @@ public final class TermsTest {
         run.hand(Run.PROMISE, 0);
         run.aboutIs("GRANTS", 0, 10, 3);
         run.aboutIs("SLOT 1 is proposed again", 0, 11, 1);
+        Check.due("an old ACCEPTED", run.x.message(run.find(Run.ACCEPTED, 0), 3), 8);
+        run.hand(Run.ACCEPTED, 0);
+        run.aboutIs("an old ACCEPTED is none of ACKS", 0, 4, 0);
+        run.aboutIs("an old ACCEPTED is none of ACKS", 0, 11, 1);
 
         Run old = new Run(7);
         old.x.tick(8);
