@@ -928,6 +928,12 @@ public final class QuorumStore {
             return true;
         }
 
+        /** "NEW b". */
+        private void promise(int newBallot) {
+            promised = newBallot;
+            stepDownBefore(newBallot);
+        }
+
         private void stepDownBefore(int greater) {
             if (leads && ballot < greater) {
                 stepDown();
@@ -943,11 +949,10 @@ public final class QuorumStore {
             if (rejects(message)) {
                 return;
             }
-            promised = message.ballot;
-            stepDownBefore(message.ballot);
-            Message promise = new Message(PROMISE, number, message.from, message.ballot, applied, null);
-            promise.list = accepted.twin();
-            network.send(promise);
+            promise(message.ballot);
+            Message reply = new Message(PROMISE, number, message.from, message.ballot, applied, null);
+            reply.list = accepted.twin();
+            network.send(reply);
         }
 
         /** Answers whether there is a GRANT more to WORK with. */
@@ -973,8 +978,7 @@ public final class QuorumStore {
             if (rejects(message)) {
                 return;
             }
-            promised = message.ballot;
-            stepDownBefore(message.ballot);
+            promise(message.ballot);
             if (message.from != number) {
                 follow(message.from);
             }
