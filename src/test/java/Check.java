@@ -12,6 +12,7 @@ final class Check {
     static final String STATE = "throws.IllegalStateException";
 
     private static int wrong = 0;
+    private static String sentence = "";
 
     private Check() { }
 
@@ -29,10 +30,21 @@ final class Check {
         }
     }
 
+    /** The test of one sentence of the document. */
+    static void sentence(String words, Runnable test) {
+        sentence = words + " -- ";
+        try {
+            test.run();
+        } catch (RuntimeException e) {
+            same("a call that should answer", "throws." + e.getClass().getSimpleName(), "no exception");
+        }
+        sentence = "";
+    }
+
     static void same(String what, String got, String want) {
         if (!got.equals(want)) {
             wrong++;
-            System.out.println(what + " answered " + got + ", due is " + want);
+            System.out.println(sentence + what + " answered " + got + ", due is " + want);
         }
     }
 

@@ -1,6 +1,6 @@
-/** Holds QuorumStore against Model in many runs of 512 calls: every answer, and now and then all that can be seen. */
+/** Holds QuorumStore against Model in many runs of 512 calls, the last of which look at what has become of it. */
 public final class ModelTest {
-    private static final int RUNS = 800;
+    private static final int RUNS = 3000;
     private static final int CALLS = 512;
     private static final int[] MASKS = {7, 7, 1, 2, 3, 15, 31, 127, 127, 96, 0, 4, 64, -1};
 
@@ -17,11 +17,13 @@ public final class ModelTest {
     private final int mostTicks;
     /** With more MESSAGES on their way it does not tick. */
     private final int patience;
+    private final int lookShare;
     /** The NODE that does not hear some kind of MESSAGE in this part of the run; 7: all do. */
     private int deaf = 7;
     /** 0: it hears nothing at all. */
     private int unheardKind;
     private int nextSeq = 1;
+    private int calls;
     private final int[][] askedBefore = {{0, 1, 3, 1, 0}, {1, 2, 3, 1, 0}, {2, 3, 3, 1, 0}, {3, 4, 3, 1, 0}};
 
     private ModelTest(int run) {
@@ -37,6 +39,7 @@ public final class ModelTest {
         membersShare = chance.of(0, 5, 20, 60);
         mostTicks = chance.of(3, 8, 12, 50);
         patience = chance.of(1, 4, 10, 30, 300);
+        lookShare = chance.of(0, 5, 20);
     }
 
     public static void main(String[] args) {
@@ -47,44 +50,55 @@ public final class ModelTest {
     }
 
     private void play() {
-        for (int call = 1; call <= CALLS && Check.wrongSoFar() == 0; call++) {
-            if (call % 64 == 0) {
+        int changes = 40 + chance.below(360);
+        while (calls < changes && Check.wrongSoFar() == 0) {
+            if (chance.below(64) == 0) {
                 deaf = chance.below(3) == 0 ? 7 : chance.of(0, 0, 1, 1, 2, 3, 4, 5, 6);
                 unheardKind = chance.of(0, 0, Run.PREPARE, Run.ACCEPT, Run.ACCEPTED, Run.HEART, Run.CHOSEN);
             }
-            step("run " + run + " call " + call + ": ");
-            if (call % 64 == 32) {
-                compareAll("run " + run + " after call " + call + ": ");
+            if (chance.below(100) < lookShare) {
+                look();
+            } else {
+                step();
             }
+        }
+        for (int node = 0; node < 7; node++) {
+            for (int what = 0; what <= 13; what++) {
+                lookAbout(node, what);
+            }
+        }
+        while (calls < CALLS && Check.wrongSoFar() == 0) {
+            look();
         }
     }
 
     private void compare(String name, Check.Call got, Check.Call want) {
-        Check.same(name, Check.outcome(got), Check.outcome(want));
+        calls++;
+        Check.same("run " + run + " call " + calls + ": " + name, Check.outcome(got), Check.outcome(want));
     }
 
-    private void step(String at) {
+    private void step() {
         int dice = chance.below(100);
         if (dice < 4) {
-            askWrongly(at);
+            askWrongly();
         } else if (dice < 4 + askShare) {
-            ask(at);
+            ask();
         } else if (dice < 4 + askShare + tickShare && model.row.size() <= patience || model.row.isEmpty()) {
             int n = 1 + chance.below(mostTicks);
-            compare(at + "tick(" + n + ")", () -> store.tick(n), () -> model.tick(n));
+            compare("tick(" + n + ")", () -> store.tick(n), () -> model.tick(n));
         } else if (dice < 4 + askShare + tickShare + crashShare) {
-            crash(at);
+            crash();
         } else {
-            carry(at);
+            carry();
         }
     }
 
-    private void crash(String at) {
+    private void crash() {
         int node = chance.below(7);
         if (model.nodes[node].live) {
-            compare(at + "fall(" + node + ")", () -> none(() -> store.fall(node)), () -> none(() -> model.fall(node)));
+            compare("fall(" + node + ")", () -> none(() -> store.fall(node)), () -> none(() -> model.fall(node)));
         } else {
-            compare(at + "rise(" + node + ")", () -> none(() -> store.rise(node)), () -> none(() -> model.rise(node)));
+            compare("rise(" + node + ")", () -> none(() -> store.rise(node)), () -> none(() -> model.rise(node)));
         }
     }
 
@@ -94,7 +108,7 @@ public final class ModelTest {
     }
 
     /** A MESSAGE is delivered, or, on a wild network, lost or doubled; mostly the first one. */
-    private void carry(String at) {
+    private void carry() {
         int size = model.row.size();
         boolean wild = chance.below(100) < wildness;
         int k = wild && size > 0 ? chance.below(size) : 0;
@@ -102,22 +116,22 @@ public final class ModelTest {
             && (unheardKind == 0 || model.row.get(k).kind() == unheardKind);
         int dice = unheard ? 0 : wild ? chance.below(10) : 9;
         if (dice == 0) {
-            compare(at + "drop(" + k + ")", () -> store.drop(k), () -> model.drop(k));
+            compare("drop(" + k + ")", () -> store.drop(k), () -> model.drop(k));
         } else if (dice == 1) {
-            compare(at + "copy(" + k + ")", () -> store.copy(k), () -> model.copy(k));
+            compare("copy(" + k + ")", () -> store.copy(k), () -> model.copy(k));
         } else {
-            compare(at + "deliver(" + k + ")", () -> store.deliver(k), () -> model.deliver(k));
+            compare("deliver(" + k + ")", () -> store.deliver(k), () -> model.deliver(k));
         }
     }
 
-    private void ask(String at) {
+    private void ask() {
         if (chance.below(6) == 0) {
-            askAgain(at);
+            askAgain();
             return;
         }
         if (chance.below(3) == 0) {
             int key = chance.below(4) * 10;
-            compare(at + "key(" + key + ")", () -> store.key(key), () -> model.key(key));
+            compare("key(" + key + ")", () -> store.key(key), () -> model.key(key));
         }
         int node = leaderOrAny();
         int client = chance.below(8);
@@ -127,15 +141,15 @@ public final class ModelTest {
         int a = members ? chance.below(128) : chance.of(1, 2, chance.below(5), Integer.MAX_VALUE, -1);
         int b = chance.below(5);
         askedBefore[chance.below(askedBefore.length)] = new int[] {client, seq, kind, a, b};
-        compare(at + "ask(" + node + ", " + client + ", " + seq + ", " + kind + ", " + a + ", " + b + ")",
+        compare("ask(" + node + ", " + client + ", " + seq + ", " + kind + ", " + a + ", " + b + ")",
             () -> store.ask(node, client, seq, kind, a, b), () -> model.ask(node, client, seq, kind, a, b));
     }
 
     /** As a client does that got no answer. */
-    private void askAgain(String at) {
+    private void askAgain() {
         int node = leaderOrAny();
         int[] v = askedBefore[chance.below(askedBefore.length)];
-        compare(at + "ask of " + node + " for client " + v[0] + ", seq " + v[1] + " again",
+        compare("ask of " + node + " for client " + v[0] + ", seq " + v[1] + " again",
             () -> store.ask(node, v[0], v[1], v[2], v[3], v[4]), () -> model.ask(node, v[0], v[1], v[2], v[3], v[4]));
     }
 
@@ -154,77 +168,69 @@ public final class ModelTest {
         return chance.of(-1, 0, 1, 3, 6, 7, 8, 31, 32, 300, Integer.MIN_VALUE, Integer.MAX_VALUE);
     }
 
-    private void askWrongly(String at) {
+    private void askWrongly() {
         int x = any();
         int y = any();
         int z = any();
         switch (chance.below(13)) {
-            case 0 -> compare(at + "tick(" + x + ")", () -> store.tick(x), () -> model.tick(x));
-            case 1 -> compare(at + "deliver(" + x + ")", () -> store.deliver(x), () -> model.deliver(x));
-            case 2 -> compare(at + "drop(" + x + ")", () -> store.drop(x), () -> model.drop(x));
-            case 3 -> compare(at + "copy(" + x + ")", () -> store.copy(x), () -> model.copy(x));
-            case 4 -> compare(at + "message(" + x + ", " + y + ")",
+            case 0 -> compare("tick(" + x + ")", () -> store.tick(x), () -> model.tick(x));
+            case 1 -> compare("deliver(" + x + ")", () -> store.deliver(x), () -> model.deliver(x));
+            case 2 -> compare("drop(" + x + ")", () -> store.drop(x), () -> model.drop(x));
+            case 3 -> compare("copy(" + x + ")", () -> store.copy(x), () -> model.copy(x));
+            case 4 -> compare("message(" + x + ", " + y + ")",
                 () -> store.message(x, y), () -> model.message(x, y));
-            case 5 -> compare(at + "fall(" + x + ")", () -> none(() -> store.fall(x)), () -> none(() -> model.fall(x)));
-            case 6 -> compare(at + "rise(" + x + ")", () -> none(() -> store.rise(x)), () -> none(() -> model.rise(x)));
-            case 7 -> compare(at + "key(" + x + ")", () -> store.key(x), () -> model.key(x));
-            case 8 -> compare(at + "ask(" + x + ", " + y + ", 1, " + z + ", 0, 0)",
+            case 5 -> compare("fall(" + x + ")", () -> none(() -> store.fall(x)), () -> none(() -> model.fall(x)));
+            case 6 -> compare("rise(" + x + ")", () -> none(() -> store.rise(x)), () -> none(() -> model.rise(x)));
+            case 7 -> compare("key(" + x + ")", () -> store.key(x), () -> model.key(x));
+            case 8 -> compare("ask(" + x + ", " + y + ", 1, " + z + ", 0, 0)",
                 () -> store.ask(x, y, 1, z, 0, 0), () -> model.ask(x, y, 1, z, 0, 0));
-            case 9 -> compare(at + "answer(" + x + ", " + y + ", " + z + ")",
+            case 9 -> compare("answer(" + x + ", " + y + ", " + z + ")",
                 () -> store.answer(x, y, z), () -> model.answer(x, y, z));
-            case 10 -> compare(at + "number(" + x + ", " + y + ")",
+            case 10 -> compare("number(" + x + ", " + y + ")",
                 () -> store.number(x, y), () -> model.number(x, y));
-            case 11 -> compare(at + "known(" + x + ", " + y + ", " + z + ")",
+            case 11 -> compare("known(" + x + ", " + y + ", " + z + ")",
                 () -> store.known(x, y, z), () -> model.known(x, y, z));
-            default -> compare(at + "about(" + x + ", " + y + ")",
+            default -> compare("about(" + x + ", " + y + ")",
                 () -> store.about(x, y), () -> model.about(x, y));
         }
     }
 
-    /** These calls change nothing, so they do not count among the 512. */
-    private void compareAll(String at) {
-        for (int what = -1; what <= 4; what++) {
-            int w = what;
-            compare(at + "count(" + w + ")", () -> store.count(w), () -> model.count(w));
-        }
-        for (int k = 0; k < model.row.size(); k++) {
-            for (int what = 0; what <= 5; what++) {
-                int m = k;
-                int w = what;
-                compare(at + "message(" + m + ", " + w + ")", () -> store.message(m, w), () -> model.message(m, w));
-            }
-        }
-        for (int node = 0; node < 7; node++) {
-            compareNode(at, node);
+    private void look() {
+        int node = chance.below(7);
+        switch (chance.below(12)) {
+            case 0 -> lookCount(chance.below(4));
+            case 1, 2, 3, 4 -> lookMessage(chance.below(model.row.size() + 1), chance.below(6));
+            case 5, 6 -> lookKnown(node, model.nodes[node].a + chance.below(51) - 17, chance.below(6));
+            case 7 -> lookNumber(node, chance.below(4) * 10);
+            case 8 -> lookAnswer(node, chance.below(8), chance.below(2));
+            default -> lookAbout(node, chance.below(14));
         }
     }
 
-    private void compareNode(String at, int node) {
-        for (int what = 0; what <= 13; what++) {
-            int w = what;
-            compare(at + "about(" + node + ", " + w + ")", () -> store.about(node, w), () -> model.about(node, w));
-        }
-        for (int key = 0; key < 32; key++) {
-            int k = key;
-            compare(at + "number(" + node + ", " + k + ")", () -> store.number(node, k), () -> model.number(node, k));
-        }
-        for (int client = 0; client < 8; client++) {
-            int c = client;
-            compare(at + "answer(" + node + ", " + c + ", 0)",
-                () -> store.answer(node, c, 0), () -> model.answer(node, c, 0));
-            compare(at + "answer(" + node + ", " + c + ", 1)",
-                () -> store.answer(node, c, 1), () -> model.answer(node, c, 1));
-        }
-        int a = model.nodes[node].a;
-        for (int slot = a - 17; slot <= a + 33; slot++) {
-            int s = slot;
-            int most = model.nodes[node].known.containsKey(s) ? 5 : 0;
-            for (int what = 0; what <= most; what++) {
-                int w = what;
-                compare(at + "known(" + node + ", " + s + ", " + w + ")",
-                    () -> store.known(node, s, w), () -> model.known(node, s, w));
-            }
-        }
+    private void lookCount(int what) {
+        compare("count(" + what + ")", () -> store.count(what), () -> model.count(what));
+    }
+
+    private void lookMessage(int k, int what) {
+        compare("message(" + k + ", " + what + ")", () -> store.message(k, what), () -> model.message(k, what));
+    }
+
+    private void lookKnown(int node, int slot, int what) {
+        compare("known(" + node + ", " + slot + ", " + what + ")",
+            () -> store.known(node, slot, what), () -> model.known(node, slot, what));
+    }
+
+    private void lookNumber(int node, int key) {
+        compare("number(" + node + ", " + key + ")", () -> store.number(node, key), () -> model.number(node, key));
+    }
+
+    private void lookAnswer(int node, int client, int what) {
+        compare("answer(" + node + ", " + client + ", " + what + ")",
+            () -> store.answer(node, client, what), () -> model.answer(node, client, what));
+    }
+
+    private void lookAbout(int node, int what) {
+        compare("about(" + node + ", " + what + ")", () -> store.about(node, what), () -> model.about(node, what));
     }
 
     /** The same throws of the dice for the same run, always. */

@@ -1,4 +1,4 @@
-/** A QuorumStore with what many tests do to it. */
+/** A store with what many tests do to it. */
 final class Run {
     static final int PREPARE = 1;
     static final int PROMISE = 2;
@@ -17,10 +17,10 @@ final class Run {
     static final int MEMBERS = 6;
     static final long NONE = 1099511627776L;
 
-    final QuorumStore x;
+    final Limited x;
 
     Run(int members) {
-        x = new QuorumStore(members);
+        x = new Limited(members);
     }
 
     /** NODE 0 LEADS with BALLOT 8, all members granted it, and nothing is on its way. */
@@ -47,6 +47,36 @@ final class Run {
             } else {
                 x.deliver(k);
             }
+        }
+    }
+
+    /** Client 0 asks 0 for ADDS of 1; 0 and 1 choose and apply them, the other MESSAGES are lost. */
+    void chooseWith1(int firstSeq, int lastSeq) {
+        for (int seq = firstSeq; seq <= lastSeq; seq++) {
+            Check.due("ask", x.ask(0, 0, seq, ADD, 1, 0), 0);
+            chooseWhatIsAsked();
+            dropAll();
+        }
+    }
+
+    /** 1 helps 0 to choose its PROPOSAL, and hears that it is chosen. */
+    void chooseWhatIsAsked() {
+        hand(ACCEPT, 1);
+        hand(ACCEPTED, 0);
+        hand(CHOSEN, 1);
+    }
+
+    /** Client 0 asks 0, which is alone, for ADDS of 1. */
+    void chooseAlone(int firstSeq, int lastSeq) {
+        for (int seq = firstSeq; seq <= lastSeq; seq++) {
+            Check.due("ask", x.ask(0, 0, seq, ADD, 1, 0), 0);
+        }
+    }
+
+    /** The first MESSAGE comes again and again until so many are on their way. */
+    void fillUpTo(int size) {
+        for (int there = x.count(0); there < size; there++) {
+            x.copy(0);
         }
     }
 
@@ -87,6 +117,19 @@ final class Run {
         return text.toString();
     }
 
+    /** The SLOTS up to that one that the NODE KNOWS a VALUE for, each with its seq. */
+    String knownUpTo(int node, int last) {
+        StringBuilder text = new StringBuilder();
+        for (int slot = 0; slot <= last; slot++) {
+            int t = slot;
+            String seq = Check.outcome(() -> x.known(node, t, 2));
+            if (!seq.equals(Check.NO_ELEMENT)) {
+                text.append(text.length() == 0 ? "" : " ").append(t).append(':').append(seq);
+            }
+        }
+        return text.toString();
+    }
+
     void wireIs(String what, String want) {
         Check.same(what, wire(), want);
     }
@@ -95,7 +138,7 @@ final class Run {
         Check.due(what + ": about(" + node + ", " + about + ")", x.about(node, about), want);
     }
 
-    /** All that the face can tell without changing anything, but for MESSAGES' contents. */
+    /** All that the face can tell without changing anything, but for VALUES that are KNOWN. */
     String sight() {
         StringBuilder text = new StringBuilder(wire());
         for (int what = 0; what < 4; what++) {

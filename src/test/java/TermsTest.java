@@ -435,20 +435,9 @@ public final class TermsTest {
         Check.due("it is chosen", run.x.number(1, 0), 5);
     }
 
-    /** 0 and 1 choose what 0 is asked; 2 hears nothing. */
-    private static void chooseWithout2(Run run, int first, int last) {
-        for (int seq = first; seq <= last; seq++) {
-            Check.due("ask", run.x.ask(0, 0, seq, Run.ADD, 1, 0), 0);
-            run.hand(Run.ACCEPT, 1);
-            run.hand(Run.ACCEPTED, 0);
-            run.hand(Run.CHOSEN, 1);
-            run.dropAll();
-        }
-    }
-
     private static void reachOf32() {
         Run run = Run.ledBy0(7);
-        chooseWithout2(run, 1, 31);
+        run.chooseWith1(1, 31);
         run.x.ask(0, 0, 32, Run.ADD, 1, 0);
         run.x.ask(0, 0, 33, Run.ADD, 1, 0);
         run.hand(Run.ACCEPT, 2);
@@ -472,7 +461,7 @@ public final class TermsTest {
 
     private static void wantBringsEight() {
         Run run = Run.ledBy0(7);
-        chooseWithout2(run, 1, 10);
+        run.chooseWith1(1, 10);
         run.x.tick(3);
         run.hand(Run.HEART, 1);
         Check.due("1 wants nothing", run.find(Run.WANT, 0), -1);
@@ -495,7 +484,7 @@ public final class TermsTest {
 
     private static void wantBringsASnapshot() {
         Run run = Run.ledBy0(7);
-        chooseWithout2(run, 1, 16);
+        run.chooseWith1(1, 16);
         run.aboutIs("BASE", 0, 5, 0);
         run.x.tick(3);
         run.hand(Run.HEART, 2);
@@ -540,12 +529,12 @@ public final class TermsTest {
 
     private static void chooseOneMore(Run run, int seq) {
         run.dropAll();
-        chooseWithout2(run, seq, seq);
+        run.chooseWith1(seq, seq);
     }
 
     private static void snapshotAndWhatIsKnownAbove() {
         Run run = Run.ledBy0(7);
-        chooseWithout2(run, 1, 18);
+        run.chooseWith1(1, 18);
         run.x.ask(0, 1, 1, Run.MEMBERS, 5, 0);
         run.hand(Run.ACCEPT, 1);
         run.hand(Run.ACCEPTED, 0);
@@ -572,7 +561,7 @@ public final class TermsTest {
 
     private static void promiseOfOneThatIsAhead() {
         Run run = Run.ledBy0(7);
-        chooseWithout2(run, 1, 2);
+        run.chooseWith1(1, 2);
         run.x.fall(0);
         run.x.tick(6);
         run.hand(Run.PREPARE, 1);
