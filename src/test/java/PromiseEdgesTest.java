@@ -756,25 +756,13 @@ public final class PromiseEdgesTest {
         Check.due("three of four", run.x.ask(0, 0, 1, Run.PUT, 1, 0), 0);
     }
 
-    /** SLOT 5 has members 0, 3 and 4, SLOT 6 those of before: GRANTS are a MAJORITY of SLOTS 1 .. 4 and 6. */
-    private static Run slot5HasOthers() {
-        Run run = Run.ledBy0(7);
-        run.x.ask(0, 1, 1, Run.MEMBERS, 25, 0);
-        run.chooseWhatIsAsked();
-        run.x.ask(0, 1, 2, Run.MEMBERS, 7, 0);
-        run.chooseWhatIsAsked();
-        run.dropAll();
-        run.aboutIs("pairs", 0, 13, 3);
-        return run;
-    }
-
     private static void askWithMajorityOfTheNextAlone() {
-        Run run = slot5HasOthers();
+        Run run = Run.slot5HasOthers();
         run.chooseWith1(1, 2);
         run.aboutIs("SLOT 5 is next", 0, 6, 25);
         leavesAll(run, "SLOT 6 has a MAJORITY, SLOT 5 has none", () -> run.x.ask(0, 0, 3, Run.PUT, 1, 0), -1);
 
-        Run before = slot5HasOthers();
+        Run before = Run.slot5HasOthers();
         before.chooseWith1(1, 1);
         Check.due("SLOT 4 has a MAJORITY, SLOT 5 has none", before.x.ask(0, 0, 2, Run.ADD, 1, 0), 0);
         Check.due("it waits", before.x.ask(0, 0, 3, Run.ADD, 1, 0), 0);
@@ -791,28 +779,17 @@ public final class PromiseEdgesTest {
         Check.due("one more", run.x.ask(0, 2, 11, Run.ADD, 1, 0), 0);
     }
 
-    /** SLOTS 1 .. 4 are proposed for seqs 1 .. 4 of client 0, and so many are in the QUEUE. */
-    private static Run queueOf(int size) {
-        Run run = Run.ledBy0(7);
-        for (int seq = 1; seq <= 4 + size; seq++) {
-            Check.due("ask", run.x.ask(0, 0, seq, Run.ADD, 1, 0), 0);
-        }
-        run.aboutIs("QUEUE", 0, 9, size);
-        run.aboutIs("PROPOSALS", 0, 11, 4);
-        return run;
-    }
-
     private static void askForOneInTheQueue() {
-        Run run = queueOf(3);
+        Run run = Run.queueOf(3);
         leavesAll(run, "the first", () -> run.x.ask(0, 0, 5, Run.ADD, 1, 0), -3);
         leavesAll(run, "the last", () -> run.x.ask(0, 0, 7, Run.GET, 9, 9), -3);
         Check.due("behind the last", run.x.ask(0, 0, 8, Run.ADD, 1, 0), 0);
-        Run full = queueOf(16);
+        Run full = Run.queueOf(16);
         leavesAll(full, "the last of 16", () -> full.x.ask(0, 0, 20, Run.ADD, 1, 0), -3);
     }
 
     private static void askForAProposal() {
-        Run run = queueOf(0);
+        Run run = Run.queueOf(0);
         leavesAll(run, "the first", () -> run.x.ask(0, 0, 1, Run.ADD, 1, 0), -3);
         leavesAll(run, "the last", () -> run.x.ask(0, 0, 4, Run.GET, 9, 9), -3);
         run.x.deliver(2);
@@ -823,7 +800,7 @@ public final class PromiseEdgesTest {
     }
 
     private static void askForClientAndSeq() {
-        Run run = queueOf(1);
+        Run run = Run.queueOf(1);
         Check.due("another client, a PROPOSAL's seq", run.x.ask(0, 1, 1, Run.ADD, 1, 0), 0);
         Check.due("another client, the QUEUE's seq", run.x.ask(0, 1, 5, Run.ADD, 1, 0), 0);
         Check.due("a lesser seq that is nowhere", run.x.ask(0, 1, 4, Run.ADD, 1, 0), 0);
@@ -831,7 +808,7 @@ public final class PromiseEdgesTest {
     }
 
     private static void askWithAFullQueue() {
-        Run run = queueOf(15);
+        Run run = Run.queueOf(15);
         Check.due("the 16th", run.x.ask(0, 0, 20, Run.ADD, 1, 0), 0);
         run.aboutIs("QUEUE", 0, 9, 16);
         leavesAll(run, "the 17th", () -> run.x.ask(0, 0, 21, Run.ADD, 1, 0), -4);
@@ -846,14 +823,14 @@ public final class PromiseEdgesTest {
     }
 
     private static void minus1First() {
-        Run run = queueOf(16);
+        Run run = Run.queueOf(16);
         run.hand(Run.ACCEPT, 1);
         run.hand(Run.ACCEPTED, 0);
         run.settle();
         Check.due("it LEADS: seq 1 is old", run.x.ask(0, 0, 1, Run.ADD, 1, 0), -2);
         Check.due("1 does not: seq 1 is old", run.x.ask(1, 0, 1, Run.ADD, 1, 0), -1);
 
-        Run others = slot5HasOthers();
+        Run others = Run.slot5HasOthers();
         for (int seq = 1; seq <= 18; seq++) {
             Check.due("ask", others.x.ask(0, 0, seq, Run.ADD, 1, 0), 0);
         }
@@ -884,7 +861,7 @@ public final class PromiseEdgesTest {
     }
 
     private static void minus3Before4() {
-        Run run = queueOf(16);
+        Run run = Run.queueOf(16);
         Check.due("a PROPOSAL, and the QUEUE is full", run.x.ask(0, 0, 1, Run.ADD, 1, 0), -3);
         Check.due("in the QUEUE, which is full", run.x.ask(0, 0, 5, Run.ADD, 1, 0), -3);
         Check.due("in the QUEUE, which is full", run.x.ask(0, 0, 20, Run.ADD, 1, 0), -3);
@@ -892,7 +869,7 @@ public final class PromiseEdgesTest {
     }
 
     private static void takenRequests() {
-        Run run = queueOf(2);
+        Run run = Run.queueOf(2);
         run.settle();
         run.aboutIs("the QUEUE is empty", 0, 9, 0);
         for (int slot = 1; slot <= 6; slot++) {
@@ -1033,7 +1010,7 @@ public final class PromiseEdgesTest {
         Check.due("the second of 17", run.x.known(0, 2, 2), 2);
         Check.due("the last of 17", run.x.known(0, 17, 2), 17);
 
-        Run gap = queueOf(0);
+        Run gap = Run.queueOf(0);
         gap.x.deliver(6);
         gap.hand(Run.ACCEPTED, 0);
         Check.due("SLOT 4 is KNOWN, though SLOT 1 is not", gap.x.known(0, 4, 2), 4);
@@ -1051,7 +1028,7 @@ public final class PromiseEdgesTest {
     }
 
     private static void aboutOneThatSteppedDown() {
-        Run run = queueOf(3);
+        Run run = Run.queueOf(3);
         run.aboutIs("QUEUE", 0, 9, 3);
         run.aboutIs("GRANTS", 0, 10, 7);
         run.aboutIs("PROPOSALS", 0, 11, 4);
@@ -1069,7 +1046,7 @@ public final class PromiseEdgesTest {
     }
 
     private static void aboutOneThatFell() {
-        Run run = queueOf(3);
+        Run run = Run.queueOf(3);
         run.hand(Run.ACCEPT, 1);
         run.aboutIs("its LEADER", 1, 7, 0);
         run.aboutIs("its TIMER", 1, 8, 11);

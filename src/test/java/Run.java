@@ -31,6 +31,59 @@ final class Run {
         return run;
     }
 
+    /** 0 LEADS; SLOTS 1 .. 4 are proposed for seqs 1 .. 4 of client 0, and so many more are in the QUEUE. */
+    static Run queueOf(int size) {
+        Run run = ledBy0(7);
+        for (int seq = 1; seq <= 4 + size; seq++) {
+            Check.due("ask", run.x.ask(0, 0, seq, ADD, 1, 0), 0);
+        }
+        run.aboutIs("QUEUE", 0, 9, size);
+        run.aboutIs("PROPOSALS", 0, 11, 4);
+        return run;
+    }
+
+    /** SLOT 5 has members 0, 3 and 4, SLOT 6 those of before: 0 has a MAJORITY of SLOTS 3, 4 and 6, not of SLOT 5. */
+    static Run slot5HasOthers() {
+        Run run = ledBy0(7);
+        run.x.ask(0, 1, 1, MEMBERS, 25, 0);
+        run.chooseWhatIsAsked();
+        run.x.ask(0, 1, 2, MEMBERS, 7, 0);
+        run.chooseWhatIsAsked();
+        run.dropAll();
+        run.aboutIs("pairs", 0, 13, 3);
+        return run;
+    }
+
+    /** 1 ACCEPTED SLOT 4 alone of four, and 0 fell: 2 LEADS with 18 and proposes NOTHING three times before it. */
+    static Run nothingInThreeSlots() {
+        Run run = ledBy0(7);
+        for (int seq = 1; seq <= 4; seq++) {
+            run.x.ask(0, 0, seq, ADD, seq, 0);
+        }
+        run.x.deliver(6);
+        run.dropAll();
+        run.x.fall(0);
+        run.x.tick(6);
+        run.hand(PREPARE, 1);
+        run.hand(PROMISE, 2);
+        return run;
+    }
+
+    /** 0 LEADS with 8 and 2 with 18; HEARTS and PREPARES of both are on their way. */
+    static Run rivals() {
+        Run run = new Run(7);
+        run.x.tick(8);
+        run.hand(PREPARE, 2);
+        run.x.fall(1);
+        run.x.tick(6);
+        run.x.rise(1);
+        run.dropAll();
+        run.x.tick(3);
+        run.wireIs("HEARTS and PREPARES", "6:0>1(8,0) 1:0>1(8,0) 6:0>2(8,0) 1:0>2(8,0)"
+            + " 6:2>0(18,0) 1:2>0(18,0) 6:2>1(18,0) 1:2>1(18,0)");
+        return run;
+    }
+
     /** Delivers from the front until nothing is on its way. */
     void settle() {
         for (int i = 0; i < 10000 && x.count(0) > 0; i++) {
