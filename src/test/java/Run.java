@@ -139,6 +139,14 @@ final class Run {
         }
     }
 
+    void dropAllBut(int kind) {
+        for (int k = x.count(0) - 1; k >= 0; k--) {
+            if (x.message(k, 0) != kind) {
+                x.drop(k);
+            }
+        }
+    }
+
     /** Where the first MESSAGE of that kind to that NODE is; -1: there is none. */
     int find(int kind, int to) {
         for (int k = 0; k < x.count(0); k++) {
