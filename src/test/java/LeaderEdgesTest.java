@@ -27,6 +27,7 @@ public final class LeaderEdgesTest {
         Check.sentence("and is not KNOWN", LeaderEdgesTest::workSkipsWhatIsKnown);
         Check.sentence("its VALUE is BEST's, if there is one", LeaderEdgesTest::bestOf32);
         Check.sentence("else NOTHING, if BEST has a greater SLOT", LeaderEdgesTest::nothingBeforeBest);
+        Check.sentence("else NOTHING, however many SLOTS there were", LeaderEdgesTest::nothingInLaterSlots);
         Check.sentence("else the first of the QUEUE, which goes out of it", LeaderEdgesTest::queueBehindBest);
         Check.sentence("else WORK is over", LeaderEdgesTest::emptyQueue);
         Check.sentence("if the NODE is in CONFIG(t), it ACCEPTS it itself", LeaderEdgesTest::leaderThatIsNoMember);
@@ -342,6 +343,32 @@ public final class LeaderEdgesTest {
         Check.due("SLOT 4", run.x.known(1, 4, 2), 4);
         run.aboutIs("no NOTHING behind it", 2, 4, 4);
         run.aboutIs("no NOTHING behind it", 2, 11, 0);
+    }
+
+    /** The last of four SLOTS alone is ACCEPTED by 1, which LEADS when 0 fell. */
+    private static void nothingInLaterSlots() {
+        for (int applied : new int[] {27, 28, 29, 60}) {
+            Run run = Run.ledBy0(7);
+            for (int seq = 1; seq <= applied; seq++) {
+                run.x.ask(0, 0, seq, Run.ADD, 1, 0);
+                run.settle();
+            }
+            for (int i = 1; i <= 4; i++) {
+                run.x.ask(0, 1, i, Run.ADD, 1, 0);
+            }
+            run.x.deliver(6);
+            run.dropAll();
+            run.x.fall(0);
+            run.x.tick(11);
+            run.aboutIs("1 LEADS", 1, 2, 17);
+            run.hand(Run.PREPARE, 2);
+            run.hand(Run.PROMISE, 1);
+            run.aboutIs("four PROPOSALS", 1, 11, 4);
+            run.settle();
+            for (int i = 1; i <= 4; i++) {
+                Check.due("SLOT " + (applied + i), run.x.known(2, applied + i, 0), i == 4 ? Run.ADD : 0);
+            }
+        }
     }
 
     private static void queueBehindBest() {

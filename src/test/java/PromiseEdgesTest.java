@@ -26,11 +26,13 @@ public final class PromiseEdgesTest {
         Check.sentence("1: 0 counts as 7", PromiseEdgesTest::zeroCountsAsSeven);
         Check.sentence("1: all seven are LIVE", PromiseEdgesTest::allSevenAreLive);
         Check.sentence("1: TIMERS 8 + 3 * their number", PromiseEdgesTest::firstTimers);
+        Check.sentence("1: a new object, whatever others have done", PromiseEdgesTest::objectsOfTheirOwn);
     }
 
     private static void tick() {
         Check.sentence("2: n times, 1 ..", PromiseEdgesTest::tickOnce);
         Check.sentence("2: n times, .. 50", PromiseEdgesTest::tickFiftyTimes);
+        Check.sentence("2: TICK, n times", PromiseEdgesTest::tickAtOnceAndOneByOne);
         Check.sentence("2: how many MESSAGES are on their way", PromiseEdgesTest::tickAnswersAll);
         Check.sentence("2: IllegalArgumentException: another n", PromiseEdgesTest::anotherN);
     }
@@ -173,6 +175,18 @@ public final class PromiseEdgesTest {
         }
     }
 
+    private static void objectsOfTheirOwn() {
+        String fresh = new Run(7).sight();
+        Run busy = Run.ledBy0(7);
+        Run idle = new Run(7);
+        busy.x.key(9);
+        busy.x.ask(0, 0, 1, Run.PUT, 5, 0);
+        busy.x.fall(6);
+        Check.same("one that does nothing stays as it was", idle.sight().equals(fresh) ? "yes" : "no", "yes");
+        Check.same("a later one is new", new Run(7).sight().equals(fresh) ? "yes" : "no", "yes");
+        Check.due("its key is its own", idle.x.key(1), 0);
+    }
+
     // Promise 2
 
     private static void tickOnce() {
@@ -190,6 +204,20 @@ public final class PromiseEdgesTest {
         for (int node = 0; node < 7; node++) {
             run.aboutIs("after 50 TICKS", node, 8, timers[node]);
         }
+    }
+
+    private static void tickAtOnceAndOneByOne() {
+        Run atOnce = new Run(7);
+        atOnce.x.tick(14);
+        atOnce.wireIs("TICKS 8, 11 and 14, in each from 0 on", "1:0>1(8,0) 1:0>2(8,0)"
+            + " 6:0>1(8,0) 1:0>1(8,0) 6:0>2(8,0) 1:0>2(8,0) 1:1>0(9,0) 1:1>2(9,0)"
+            + " 6:0>1(8,0) 1:0>1(8,0) 6:0>2(8,0) 1:0>2(8,0) 6:1>0(9,0) 1:1>0(9,0) 6:1>2(9,0) 1:1>2(9,0)"
+            + " 1:2>0(10,0) 1:2>1(10,0)");
+        Run oneByOne = new Run(7);
+        for (int i = 0; i < 14; i++) {
+            oneByOne.x.tick(1);
+        }
+        Check.same("the same", oneByOne.sight().equals(atOnce.sight()) ? "yes" : "no", "yes");
     }
 
     private static void tickAnswersAll() {

@@ -22,6 +22,7 @@ public final class StateEdgesTest {
         Check.sentence("BASE: or where a SNAPSHOT put it (the greater of these)", StateEdgesTest::baseOfASnapshot);
         Check.sentence("SLOTS that are not above BASE are forgotten", StateEdgesTest::knownIsForgotten);
         Check.sentence("and ACCEPTED ones not above A", StateEdgesTest::acceptedIsForgotten);
+        Check.sentence("however many SLOTS there were", StateEdgesTest::manySlots);
     }
 
     private static void majorityPeersAndNetwork() {
@@ -36,6 +37,7 @@ public final class StateEdgesTest {
         Check.sentence("APPLYING SLOT A + 1 while its VALUE is KNOWN", StateEdgesTest::applyingStopsAtAGap);
         Check.sentence("kind 0 nothing", StateEdgesTest::applyingNothing);
         Check.sentence("if seq is above the client's last one", StateEdgesTest::seqAboveTheLastOne);
+        Check.sentence("if seq is above the client's last one: MEMBERS, too", StateEdgesTest::membersOfAnOldSeq);
         Check.sentence("PUT the number there before, then it is a", StateEdgesTest::put);
         Check.sentence("TAKE likewise, then none", StateEdgesTest::take);
         Check.sentence("ADD: the number (none: 0) becomes a more, that", StateEdgesTest::add);
@@ -198,6 +200,29 @@ public final class StateEdgesTest {
         run.aboutIs("SLOTS 2 and 3 are left", 2, 12, 2);
         run.hand(Run.CHOSEN, 2);
         run.aboutIs("SLOT 3 is left", 2, 12, 1);
+    }
+
+    private static void manySlots() {
+        Run run = Run.ledBy0(3);
+        for (int seq = 1; seq <= 82; seq++) {
+            run.x.ask(0, 0, seq, Run.ADD, 1, 0);
+            run.hand(Run.ACCEPT, 1);
+            run.aboutIs("one is ACCEPTED", 0, 12, 1);
+            run.aboutIs("one is ACCEPTED", 1, 12, 1);
+            run.settle();
+            for (int node = 0; node < 2; node++) {
+                run.aboutIs("A", node, 4, seq);
+                run.aboutIs("nothing is ACCEPTED", node, 12, 0);
+                Check.due("the last is KNOWN", run.x.known(node, seq, 2), seq);
+                if (seq > 16) {
+                    Check.due("the first that is KNOWN", run.x.known(node, seq - 15, 2), seq - 15);
+                }
+            }
+            if (seq > 16) {
+                refusesKnown(run, 1, seq - 16);
+            }
+        }
+        Check.due("all count", run.x.number(1, 0), 82);
     }
 
     // MAJORITY, PEERS, the network
@@ -370,6 +395,17 @@ public final class StateEdgesTest {
         twice.aboutIs("SLOTS 2 and 3 are for seq 2", 0, 4, 3);
         Check.due("SLOT 3", twice.x.known(0, 3, 2), 2);
         Check.due("the same seq counts once", twice.x.number(0, 0), 2);
+    }
+
+    private static void membersOfAnOldSeq() {
+        Run run = Run.ledBy0(7);
+        run.x.ask(0, 0, 2, Run.ADD, 1, 0);
+        run.x.ask(0, 0, 1, Run.MEMBERS, 127, 0);
+        run.settle();
+        run.aboutIs("both are applied", 1, 4, 2);
+        run.aboutIs("no pair comes", 1, 13, 1);
+        run.aboutIs("no pair comes", 0, 13, 1);
+        Check.due("RESULT stays", run.x.answer(1, 0, 1), 1);
     }
 
     private static void result(Run run, int kind, int a, int b, long result, long number) {
