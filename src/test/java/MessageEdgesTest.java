@@ -20,10 +20,12 @@ public final class MessageEdgesTest {
         Check.sentence("OLD b: below, not the same: ACCEPT and HEART", MessageEdgesTest::sameAcceptAndHeart);
         Check.sentence("NEW b: PROMISED is b; with a BALLOT below b, it STEPS DOWN", MessageEdgesTest::newBallot);
         Check.sentence("PREPARE: PROMISE (b, A, all ACCEPTED) to f", MessageEdgesTest::promiseTellsAll);
+        Check.sentence("PREPARE: PROMISE as it was when it was sent", MessageEdgesTest::promiseStaysAsItWas);
     }
 
     private static void promiseAndReject() {
         Check.sentence("PROMISE: if n LEADS with b", MessageEdgesTest::promiseOfAnotherBallot);
+        Check.sentence("PROMISE: if n LEADS with b, no more", MessageEdgesTest::promiseBehindSteppingDown);
         Check.sentence("PROMISE: x above A: WANT (A + 1) to f", MessageEdgesTest::promiseOfOneAhead);
         Check.sentence("PROMISE: else f is in GRANTS", MessageEdgesTest::promiseOfOneAsFarOrBehind);
         Check.sentence("PROMISE: of each in the list above A", MessageEdgesTest::promiseOfAppliedSlots);
@@ -39,6 +41,7 @@ public final class MessageEdgesTest {
         Check.sentence("ACCEPT: if t is above A, ACCEPTED for t is (b, v)", MessageEdgesTest::acceptOfALaterBallot);
         Check.sentence("ACCEPT: whatever t is, ACCEPTED (b, t) to f", MessageEdgesTest::acceptOfOldSlots);
         Check.sentence("ACCEPTED: if n LEADS with b", MessageEdgesTest::acceptedOfAnotherBallot);
+        Check.sentence("ACCEPTED: if n LEADS with b, no more", MessageEdgesTest::acceptedBehindSteppingDown);
         Check.sentence("ACCEPTED: and has a PROPOSAL for t", MessageEdgesTest::acceptedForNoProposal);
         Check.sentence("ACCEPTED: f is in ACKS; a MAJORITY of CONFIG(t)", MessageEdgesTest::acksOfOneCountOnce);
     }
@@ -221,6 +224,26 @@ public final class MessageEdgesTest {
         look.aboutIs("all three are BEST", 1, 11, 3);
     }
 
+    private static void promiseStaysAsItWas() {
+        Run run = new Run(7);
+        run.x.tick(8);
+        run.hand(Run.PREPARE, 1);
+        run.hand(Run.PREPARE, 2);
+        run.hand(Run.PROMISE, 0);
+        run.x.ask(0, 0, 1, Run.ADD, 1, 0);
+        run.hand(Run.ACCEPT, 2);
+        run.aboutIs("2 ACCEPTED SLOT 1", 2, 12, 1);
+        Check.due("its PROMISE was sent before", run.x.message(run.find(Run.PROMISE, 0), 5), 0);
+        run.dropAll();
+        run.x.tick(3);
+        run.hand(Run.PREPARE, 2);
+        int k = run.x.count(0) - 1;
+        Check.due("PROMISE with one", run.x.message(k, 5), 1);
+        run.x.tick(3);
+        run.x.fall(2);
+        Check.due("though it fell", run.x.message(k, 5), 1);
+    }
+
     // PROMISE, REJECT
 
     private static void promiseOfAnotherBallot() {
@@ -247,6 +270,22 @@ public final class MessageEdgesTest {
         down.hand(Run.PROMISE, 0);
         down.aboutIs("it is its BALLOT, but it does not LEAD", 0, 10, 0);
         down.aboutIs("it is its BALLOT", 0, 2, 8);
+    }
+
+    private static void promiseBehindSteppingDown() {
+        Run run = Run.ledBy0(7);
+        run.chooseWith1(1, 1);
+        run.x.fall(0);
+        run.x.tick(6);
+        run.hand(Run.PREPARE, 1);
+        run.x.tick(5);
+        run.aboutIs("1 LEADS", 1, 2, 25);
+        handLast(run);
+        run.aboutIs("2 stepped down", 2, 1, 0);
+        run.aboutIs("its BALLOT stays", 2, 2, 18);
+        int sent = run.x.count(1);
+        run.hand(Run.PROMISE, 2);
+        Check.due("1 is ahead, but 2 does not want", run.x.count(1), sent);
     }
 
     private static void promiseOfOneAhead() {
@@ -556,6 +595,20 @@ public final class MessageEdgesTest {
         run.hand(Run.ACCEPTED, 2);
         run.aboutIs("18 is no ACK for 26", 2, 4, 0);
         run.aboutIs("18 is no ACK for 26", 2, 11, 1);
+    }
+
+    private static void acceptedBehindSteppingDown() {
+        Run run = Run.queueOf(0);
+        run.hand(Run.ACCEPT, 1);
+        run.x.tick(6);
+        run.aboutIs("2 LEADS", 2, 2, 18);
+        run.hand(Run.PREPARE, 0);
+        run.aboutIs("0 stepped down", 0, 1, 0);
+        run.aboutIs("its BALLOT stays", 0, 2, 8);
+        int sent = run.x.count(1);
+        run.hand(Run.ACCEPTED, 0);
+        Check.due("nothing is chosen", run.x.count(1), sent);
+        run.aboutIs("nothing is chosen", 0, 4, 0);
     }
 
     private static void acceptedForNoProposal() {

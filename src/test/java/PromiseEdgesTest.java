@@ -52,7 +52,7 @@ public final class PromiseEdgesTest {
         Check.sentence("5: NoSuchElementException: there is none", PromiseEdgesTest::noneToCopy);
         Check.sentence("5: IllegalStateException: 300 are there", PromiseEdgesTest::copyInto300);
         Check.sentence("5: of two exceptions the first", PromiseEdgesTest::noneToCopyOf300);
-        Check.sentence("6: its BALLOT (.. 0), its SLOT or A (0), ACCEPTED (.. else 0)", PromiseEdgesTest::zerosOfMessages);
+        Check.sentence("6: its BALLOT (.. 0), its SLOT or A (0), (.. else 0)", PromiseEdgesTest::zerosOfMessages);
         Check.sentence("6: how many ACCEPTED in it", PromiseEdgesTest::acceptedInAPromise);
         Check.sentence("6: NoSuchElementException: there is none", PromiseEdgesTest::noMessage);
         Check.sentence("6: IllegalArgumentException: another what", PromiseEdgesTest::noSuchWhatOfAMessage);

@@ -17,7 +17,7 @@ public final class StateEdgesTest {
         Check.sentence("BALLOT: 8 * round + node", StateEdgesTest::firstBallots);
         Check.sentence("SLOTS from 1 on", StateEdgesTest::firstSlot);
         Check.sentence("CONFIG(t): the last pair whose SLOT is not above t", StateEdgesTest::configOfASlot);
-        Check.sentence("the first pair goes whenever the second one's SLOT is not above A + 1", StateEdgesTest::pairsGo);
+        Check.sentence("the first pair goes: the second one's SLOT is not above A + 1", StateEdgesTest::pairsGo);
         Check.sentence("BASE is 0 first, and A - 16 from 16 on", StateEdgesTest::baseFrom16On);
         Check.sentence("BASE: or where a SNAPSHOT put it (the greater of these)", StateEdgesTest::baseOfASnapshot);
         Check.sentence("SLOTS that are not above BASE are forgotten", StateEdgesTest::knownIsForgotten);
