@@ -45,6 +45,7 @@ public final class LeaderEdgesTest {
         Check.sentence("whenever A of a NODE that LEADS becomes greater", LeaderEdgesTest::leaderTakesASnapshot);
         Check.sentence("of a NODE that LEADS, not of another", LeaderEdgesTest::followersDoNotPrepare);
         Check.sentence("then WORK", LeaderEdgesTest::workWhenAIsGreater);
+        Check.sentence("whenever A becomes greater, not before", LeaderEdgesTest::knownWhileAStays);
     }
 
     private static void tick() {
@@ -655,6 +656,43 @@ public final class LeaderEdgesTest {
         told.hand(Run.CHOSEN, 0);
         told.aboutIs("SLOT 1 is applied", 0, 4, 1);
         told.aboutIs("SLOT 5 is proposed", 0, 9, 0);
+    }
+
+    /** SLOT 5, which 0 cannot propose, is chosen by 1: then 0 KNOWS it, but A of 0 stays. */
+    private static void knownWhileAStays() {
+        Run run = Run.slot5HasOthers();
+        for (int seq = 1; seq <= 3; seq++) {
+            run.x.ask(0, 0, seq, Run.ADD, 1, 0);
+        }
+        run.x.fall(2);
+        run.x.rise(2);
+        run.x.tick(11);
+        run.aboutIs("1 LEADS", 1, 2, 17);
+        for (int k = run.x.count(0) - 1; k >= 0; k--) {
+            if (run.x.message(k, 1) != 1 || run.x.message(k, 2) == 0) {
+                run.x.drop(k);
+            }
+        }
+        for (int node = 2; node <= 4; node++) {
+            run.hand(Run.PREPARE, node);
+            run.hand(Run.PROMISE, 1);
+        }
+        for (int seq = 1; seq <= 3; seq++) {
+            Check.due("1 LEADS", run.x.ask(1, 5, seq, Run.ADD, 1, 0), 0);
+        }
+        for (int node = 3; node <= 4; node++) {
+            run.hand(Run.ACCEPT, node);
+            run.hand(Run.ACCEPTED, 1);
+        }
+        run.aboutIs("0 LEADS", 0, 1, 1);
+        run.aboutIs("SLOTS 3 and 4 are proposed", 0, 11, 2);
+        int sent = run.x.count(1);
+        run.hand(Run.CHOSEN, 0);
+        Check.same("SLOT 5 is KNOWN", run.knownUpTo(0, 9), "1:1 2:2 5:3");
+        run.aboutIs("A stays", 0, 4, 2);
+        run.aboutIs("SLOT 6 is not proposed", 0, 11, 2);
+        run.aboutIs("what waits waits on", 0, 9, 1);
+        Check.due("nothing is sent", run.x.count(1), sent);
     }
 
     // TICK
